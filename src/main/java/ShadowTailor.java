@@ -421,7 +421,7 @@ public final class ShadowTailor {
         private int length;
 
         boolean add(char sign) {
-            if (length >= signs.length) {
+            if (length >= MOST_LETTERS) {
                 return false;
             }
             signs[length] = sign;
@@ -430,7 +430,6 @@ public final class ShadowTailor {
         }
 
         void put(String all) {
-            length = 0;
             for (int k = 0; k < all.length(); k++) {
                 add(all.charAt(k));
             }
@@ -864,11 +863,17 @@ public final class ShadowTailor {
 
     /** The states that are kept, the last one on top. */
     private static final class Kept {
-        private final State[] states = {new State(), new State()};
+        private final State[] states = new State[MOST_KEPT];
         private int many;
 
+        Kept() {
+            for (int n = 0; n < MOST_KEPT; n++) {
+                states[n] = new State();
+            }
+        }
+
         boolean add(State state) {
-            if (many >= states.length) {
+            if (many >= MOST_KEPT) {
                 return false;
             }
             states[many].copyFrom(state);

@@ -168,6 +168,11 @@ public final class ShadowTailorPromises {
         writeAll(x, "7;");
         due("fault()", x.fault(), NONE);
         due("count(0) stays", x.count(0), 4);
+        x.wipe();
+        writeAll(x, "p1,1,0,0");
+        due("fault() without letters that are wiped", x.fault(), 0);
+        due("fault at the end of the longest text", faultOf("p1,1,0,0;" + times("f1,1;", 6) + times("w0,6,0;", 9)
+            + times("l0,6,0;", 6) + times("r1;", 7) + times("o10;", 3) + times("p1,1,0,0;", 2) + "p1,1,0,0"), 195);
     }
 
     private static void faultOfPersonsAndWalks() {
@@ -247,9 +252,23 @@ public final class ShadowTailorPromises {
         x.alter(0, 0);
         x.walk(0, 6, 60);
         due("lay() again", x.lay(), 2);
+        layAnew();
         due("person(0, 2) as in the text", x.person(0, 2), 10);
         due("where(0, 6) as in the text", x.where(0, 6), 5);
         due("undo() again", x.undo(), NO);
+    }
+
+    private static void layAnew() {
+        ShadowTailor x = laid("p0,1,0,0;r5;r6;o6;f3,3;f1,1;");
+        due("cut(-2) ahead of lay()", x.cut(-2), 0);
+        due("fittings(-2) ahead of lay()", x.fittings(-2), 1);
+        x.wipe();
+        writeAll(x, "p0,1,0,0;r8;r9;o6;f3,1;f1,1;");
+        due("lay()", x.lay(), 1);
+        due("cut(-2) behind lay()", x.cut(-2), 2);
+        due("cut(0) behind lay()", x.cut(0), 0);
+        due("fittings(-2) behind lay()", x.fittings(-2), 3);
+        due("fittings(0) behind lay()", x.fittings(0), 1);
     }
 
     private static void person() {
@@ -524,6 +543,12 @@ public final class ShadowTailorPromises {
         ShadowTailor z = laid("p5,9,0,20;p20,1,0,20;p3,1,0,20;p40,9,0,0;p39,1,0,20;");
         due("first(1), the lowest", z.first(1), 0);
         due("first(2), who is on that one", z.first(2), 2);
+        ShadowTailor last = laid("p5,1,0,2;p6,1,0,2;");
+        due("first(0) at the last hour", last.first(0), 6);
+        last.walk(0, 6, 50);
+        due("first(0) of nobody", last.first(0), NONE);
+        last.walk(0, 18, 5);
+        due("first(0) at the last hour", last.first(0), 18);
     }
 
     private static void broken() {
@@ -661,6 +686,12 @@ public final class ShadowTailorPromises {
         due("look(1) of nobody", y.look(1), NONE);
         due("look(2) of nobody", y.look(2), BAD);
         due("look(2)", x.look(2), BAD);
+        ShadowTailor alike = laid(times("p10,2,0,0;", 6));
+        due("look(0) of six alike", alike.look(0), 6);
+        due("look(1) of six alike", alike.look(1), 6);
+        alike.walk(5, 18, 40);
+        due("look(0) at the last hour", alike.look(0), 18);
+        due("look(1) at the last hour", alike.look(1), 5);
         for (int number : WRONG) {
             due("look(" + number + ")", x.look(number), BAD);
         }
@@ -734,6 +765,13 @@ public final class ShadowTailorPromises {
         due("fittings(0)", x.fittings(0), 1);
         due("fittings(1)", x.fittings(1), 2);
         due("fittings(2)", x.fittings(2), 0);
+        // One after the other two are late by 2 hours together; fewest late comes first.
+        ShadowTailor y = laid("p0,1,0,0;f9,9;f2,10;f2,12;");
+        due("fittings(-1), one late", y.fittings(-1), 1);
+        due("fittings(-2), more hours", y.fittings(-2), 3);
+        due("fittings(0), more hours", y.fittings(0), 0);
+        due("fittings(1), more hours", y.fittings(1), 2);
+        due("fittings(2), more hours", y.fittings(2), 1);
     }
 
     private static void watchers() {
