@@ -18,7 +18,7 @@ public final class ShadowTailor {
     private static final int SEEN_SHIFT = 40;
     private static final int MOST_SEEN_CELL = 140;
     /** Beyond all cells that a shadow can cover. */
-    private static final int NO_CELL = Integer.MAX_VALUE, BELOW_ALL_CELLS = Integer.MIN_VALUE;
+    private static final int NO_CELL = 1000, BELOW_ALL_CELLS = -1000;
     private static final int MOST_CHANCE = 10;
     private static final int LAST_DAY = 9999;
     private static final int MOST_POPLAR = 99, MOST_STROKE = 9;
