@@ -364,21 +364,61 @@ public final class ShadowTailorEdges {
     // ---- 2, promises 6 to 14
 
     private static void places() {
-        told("PERSONS, REMNANTS: such as there are; hours 6 to 18");
+        told("BAD: a number is none that is told (PERSONS, REMNANTS: such as there are; hours 6 to 18).");
+        for (int many = 1; many <= 6; many++) {
+            ShadowTailor some = laid("p20,2,0,0;".repeat(many) + "r1;".repeat(many));
+            for (int i = 0; i <= 6; i++) {
+                due("where(" + i + ", 6) of " + many, some.where(i, 6), i < many ? 20 : BAD);
+                due("person(" + i + ", 0) of " + many, some.person(i, 0), i < many ? 2 : BAD);
+                due("shadow(" + i + ", 12, 1) of " + many, some.shadow(i, 12, 1), i < many ? NONE : BAD);
+                due("stands(" + i + ", 6) of " + many, some.stands(i, 6), i < many ? 0 : BAD);
+                due("wear(" + i + ", 6) of " + many, some.wear(i, 6), i < many ? 0 : BAD);
+                due("taken(" + i + ", 6, 6) of " + many, some.taken(i, 6, 6), i < many ? 0 : BAD);
+                due("clouds(" + i + ", 6, 6, 0, 0) of " + many, some.clouds(i, 6, 6, 0, 0), i < many ? 1 : BAD);
+                due("alter(" + i + ", 9) of " + many, some.alter(i, 9), i < many ? 9 : BAD);
+                due("walk(" + i + ", 6, 20) of " + many, some.walk(i, 6, 20), i < many ? i + 1 : BAD);
+                due("cut(" + i + ") of " + many, some.cut(i), i < many ? NONE : BAD);
+            }
+        }
+
+        told("Hours are 6 to 18.");
         ShadowTailor one = laid("p20,2,0,0;r1;");
-        due("where(0, 6)", one.where(0, 6), 20);
-        due("where(0, 18)", one.where(0, 18), 20);
-        due("where(1, 6)", one.where(1, 6), BAD);
-        due("where(-1, 6)", one.where(-1, 6), BAD);
-        due("where(0, 5)", one.where(0, 5), BAD);
-        due("where(0, 19)", one.where(0, 19), BAD);
-        due("where(32, 6)", one.where(32, 6), BAD);
-        due("cut(0)", one.cut(0), NONE);
-        due("cut(1)", one.cut(1), BAD);
-        due("person(0, 2)", one.person(0, 2), 9);
-        due("person(0, 3)", one.person(0, 3), BAD);
-        due("person(0, -1)", one.person(0, -1), BAD);
-        due("person(1, 0)", one.person(1, 0), BAD);
+        for (int t = 4; t <= 20; t++) {
+            boolean isHour = t >= 6 && t <= 18;
+            due("where(0, " + t + ")", one.where(0, t), isHour ? 20 : BAD);
+            due("shadow(0, " + t + ", 0)", one.shadow(0, t, 0), isHour ? Math.abs(12 - t) : BAD);
+            due("covers(20, " + t + ")", one.covers(20, t), isHour ? 0 : BAD);
+            due("stands(0, " + t + ")", one.stands(0, t), isHour ? 0 : BAD);
+            due("wear(0, " + t + ")", one.wear(0, t), isHour ? 0 : BAD);
+            due("taken(0, " + t + ", " + t + ")", one.taken(0, t, t), isHour ? 0 : BAD);
+            due("watchers(" + t + ", 0)", one.watchers(t, 0), !isHour ? BAD : t == 12 ? NONE : 1);
+            due("light(" + t + ")", one.light(t), isHour ? 61 - Math.abs(12 - t) : BAD);
+            due("clouds(0, " + t + ", " + t + ", 5, 1)", one.clouds(0, t, t, 5, 1), isHour ? 1 : BAD);
+        }
+
+        told("Of a PERSON: height (what = 0), KIND (1), by how much the SHADOW is taken in, and 9 (2). BAD.");
+        ShadowTailor ends = laid("p0,9,3,20;p0,1,0,0;");
+        int[][] answers = {{9, 3, 29}, {1, 0, 9}};
+        for (int i = 0; i < 2; i++) {
+            for (int what = 0; what <= 2; what++) {
+                due("person(" + i + ", " + what + ")", ends.person(i, what), answers[i][what]);
+            }
+            due("person(" + i + ", 3)", ends.person(i, 3), BAD);
+            due("person(" + i + ", -1)", ends.person(i, -1), BAD);
+        }
+        due("person(2, 0)", ends.person(2, 0), BAD);
+        due("person(-1, 0)", ends.person(-1, 0), BAD);
+        ends.alter(1, 0);
+        due("person(1, 2) let out by 9", ends.person(1, 2), 0);
+
+        told("Where a PERSON is at an hour. BAD.");
+        due("where(0, 6)", ends.where(0, 6), 0);
+        due("where(1, 18)", ends.where(1, 18), 0);
+        due("where(2, 6)", ends.where(2, 6), BAD);
+        due("where(-1, 6)", ends.where(-1, 6), BAD);
+        due("where(32, 6)", ends.where(32, 6), BAD);
+        due("where(0, 5)", ends.where(0, 5), BAD);
+        due("where(0, 19)", ends.where(0, 19), BAD);
 
         told("A PERSON is where told; from an hour of a walk on where that leads");
         ShadowTailor x = laid("p20,2,0,0;p30,2,0,0;w0,18,60;w1,6,0;");
@@ -521,6 +561,11 @@ public final class ShadowTailorEdges {
         bits("stands(0, 6) of five", six.stands(0, 6), 1, 2, 3, 4, 5);
         ShadowTailor last = laid("p29,1,0,20;".repeat(5) + "p30,9,0,0;");
         bits("stands(5, 6) of five", last.stands(5, 6), 0, 1, 2, 3, 4);
+
+        told("Who STANDS ON a SHADOW at an hour, as bits. BAD.");
+        bits("stands(5, 12) of nobody", last.stands(5, 12));
+        bits("stands(5, 18) of nobody", last.stands(5, 18));
+        bits("stands(0, 6) of nobody", last.stands(0, 6));
         due("stands(6, 6)", last.stands(6, 6), BAD);
         due("stands(-1, 6)", last.stands(-1, 6), BAD);
         due("stands(0, 5)", last.stands(0, 5), BAD);
@@ -540,6 +585,9 @@ public final class ShadowTailorEdges {
         all.alter(0, 0);
         due("wear(0, 18) of all", all.wear(0, 18), 65);
         due("wear(0, 17)", all.wear(0, 17), 60);
+
+        told("`int wear(int i, int t)`: WEAR to an hour. BAD.");
+        due("wear(5, 6)", all.wear(5, 6), 0);
         due("wear(6, 6)", all.wear(6, 6), BAD);
         due("wear(-1, 6)", all.wear(-1, 6), BAD);
         due("wear(0, 5)", all.wear(0, 5), BAD);
@@ -684,7 +732,10 @@ public final class ShadowTailorEdges {
         due("broken() of 60 by 60", x.broken(), NONE);
         x.alter(0, 2);
         due("broken() of 60 by 61", x.broken(), 0);
+
+        told("`int broken()`: BROKEN. NONE.");
         due("broken() without laws", laid("p30,9,2,0;").broken(), NONE);
+        due("broken() of six that are kept", laid("p30,9,2,0;" + "l0,6,54;".repeat(6)).broken(), NONE);
     }
 
     private static void takingIn() {
@@ -746,16 +797,21 @@ public final class ShadowTailorEdges {
 
         told("was at cell x less 40 (x 0 to 140)");
         ShadowTailor y = laid("p0,9,2,14;p60,9,2,14;");
-        due("seen(6, -1)", y.seen(6, -1), BAD);
-        due("seen(6, 141)", y.seen(6, 141), BAD);
-        due("seen(5, 0)", y.seen(5, 0), BAD);
-        due("seen(19, 0)", y.seen(19, 0), BAD);
-        due("count(6)", y.count(6), 0);
         due("seen(6, 0)", y.seen(6, 0), 1);
         due("whose() ends at -40", y.whose(), 1);
         y.forget();
         due("seen(18, 140)", y.seen(18, 140), 1);
         due("whose() ends at 100", y.whose(), 2);
+
+        told("SEEN: how many. BAD; FULL.");
+        ShadowTailor w = new ShadowTailor();
+        due("seen(6, -1)", w.seen(6, -1), BAD);
+        due("seen(6, 141)", w.seen(6, 141), BAD);
+        due("seen(5, 0)", w.seen(5, 0), BAD);
+        due("seen(19, 0)", w.seen(19, 0), BAD);
+        due("count(6)", w.count(6), 0);
+        due("seen(6, 140)", w.seen(6, 140), 1);
+        due("seen(18, 0)", w.seen(18, 0), 2);
 
         told("(the last cell that it covers; the PERSON's, if it covers none)");
         ShadowTailor z = laid("p30,1,0,0;p28,1,0,2;p27,1,0,3;p27,1,0,4;p26,1,0,20;w3,12,50;");
@@ -775,6 +831,8 @@ public final class ShadowTailorEdges {
         z.walk(0, 12, 29);
         bits("whose() walked since", z.whose());
         z.forget();
+
+        told("`int whose()`: WHOSE, as bits.");
         bits("whose() of nothing seen", z.whose(), 0, 1, 2, 3, 4);
         bits("whose() of six", laid("p0,1,0,0;".repeat(6)).whose(), 0, 1, 2, 3, 4, 5);
         for (int t : new int[] {6, 6, 6, 6, 6, 18}) {
@@ -797,6 +855,14 @@ public final class ShadowTailorEdges {
         lookIs("at the last hour", laid("p30,1,0,0;p30,1,0,0;w1,18,31;"), 18, 1);
         lookIs("at the worst", laid("p10,1,0,20;p10,1,0,20;p10,1,0,20;p30,1,0,20;p30,1,0,20;w2,9,30;w4,9,40;"), 9, 2);
         lookIs("of several the first", laid("p30,1,0,0;p30,1,0,0;w1,9,31;w1,10,30;w1,12,31;"), 9, 1);
+
+        told("of several the first: it; how many; none (nobody).");
+        ShadowTailor nobody = laid("p30,1,0,0;");
+        nobody.seen(12, 69);
+        lookIs("of nobody", nobody, NONE, NONE);
+        nobody.forget();
+        nobody.seen(12, 70);
+        lookIs("of one", nobody, 6, 1);
 
         told("LOOK: the hour (what = 0), how many (1). NONE; BAD.");
         ShadowTailor x = laid("p30,1,0,0;p30,1,0,0;p31,1,0,0;");
@@ -836,6 +902,10 @@ public final class ShadowTailorEdges {
         cutIs("o10;o1;r9;r1;r1;r40;", 0, 30, NONE, 1, NONE, 0);
         cutIs("o10;o10;o10;r10;r9;r10;r1;r10;", 0, 0, 0, NONE, 1, NONE, 2);
         cutIs("o7;" + "r1;".repeat(7), 6, 0, 0, 0, 0, 0, 0, 0, 0);
+
+        told("SEAMS; waste; for which ORDER a REMNANT is; none.");
+        cutIs("o60;o60;o60;" + "r30;".repeat(6), 3, 0, 0, 0, 1, 1, 2, 2);
+        cutIs("o60;o60;o60;" + "r30;".repeat(5) + "r29;", NONE, NONE, NONE, NONE, NONE, NONE, NONE, NONE);
 
         told("CUT: SEAMS (r = -1), waste (-2), for which ORDER a REMNANT is (NONE: for none). NONE; BAD.");
         cutIs("", 0, 0);
@@ -887,6 +957,11 @@ public final class ShadowTailorEdges {
         fittingsAre("f1,1;f1,1;f1,1;", 2, 3, 0, 1, 2);
         fittingsAre("f1,9;f1,9;f1,1;", 0, 0, 2, 0, 1);
         fittingsAre("f1,60;".repeat(6), 0, 0, 0, 1, 2, 3, 4, 5);
+
+        told("how many; hours; which FITTING is the k-th; none (there are none).");
+        fittingsAre("f9,1;".repeat(6), 6, 183, 0, 1, 2, 3, 4, 5);
+        fittingsAre("f9,1;f8,1;", 2, 23, 1, 0);
+        due("fittings(-1) of none", laid("p0,1,0,0;r1;o1;").fittings(-1), NONE);
 
         told("FITTINGS: LATE (k = -1), hours (-2), the k-th (0 first). BAD (without FITTINGS 0 is none); NONE.");
         ShadowTailor none = laid("p0,1,0,0;");
@@ -951,6 +1026,12 @@ public final class ShadowTailorEdges {
         due("poplar(99, 1)", x.poplar(99, 1), 0);
         due("poplar(98, 1)", x.poplar(98, 1), 1);
         due("poplar(99, 9)", x.poplar(99, 9), 8);
+
+        told("how many the first one has to cut to win (0: he can not).");
+        for (int n = 1; n <= 99; n++) {
+            due("poplar(" + n + ", 1)", x.poplar(n, 1), n % 2 == 0 ? 1 : 0);
+            due("poplar(" + n + ", 9)", x.poplar(n, 9), (n + 9) % 10);
+        }
 
         told("`int poplar(int n, int m)`: POPLAR. BAD.");
         due("poplar(0, 1)", x.poplar(0, 1), BAD);
@@ -1044,6 +1125,13 @@ public final class ShadowTailorEdges {
         due("where(0, 6) stays", x.where(0, 6), 0);
         due("day(-1, 0)", x.day(-1, 0), BAD);
         due("day(10000, 0)", x.day(10000, 0), BAD);
+
+        told("how many STAND ON all SHADOWS in all hours together; the first hour at which anybody does; none.");
+        ShadowTailor short6 = laid("p0,1,0,20;".repeat(6));
+        for (int z = 0; z <= 9999; z += 1111) {
+            due("day(" + z + ", 0) of no shadow", short6.day(z, 0), 0);
+            due("day(" + z + ", 1) of no shadow", short6.day(z, 1), NONE);
+        }
 
         told("A DAY: how many (what = 0), the first hour (1; NONE). BAD.");
         ShadowTailor alone = laid("p30,9,2,0;");
