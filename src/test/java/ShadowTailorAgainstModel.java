@@ -4,8 +4,10 @@ import java.util.ArrayList;
 import java.util.Arrays;
 import java.util.Collections;
 import java.util.List;
+import java.util.Map;
 import java.util.Random;
 import java.util.Set;
+import java.util.TreeMap;
 import java.util.TreeSet;
 import java.util.regex.Matcher;
 import java.util.regex.Pattern;
@@ -13,15 +15,26 @@ import java.util.regex.Pattern;
 /** Random runs of calls, answered by the class and by a model that reads the document plainly and tries everything. */
 public final class ShadowTailorAgainstModel {
     private static final int BAD = -1, NO = -2, FULL = -3, NONE = -4;
-    private static final int RUNS = 400;
+    private static final int RUNS = 1500;
     private static final int CALLS = 512;
     private static final int MOST_SHOWN = 20;
+    /** Fewer answers of a kind than these would not say much of it. */
+    private static final int FEWEST = 100;
+    /** The kinds of answers that the document tells of each call; a plain one (ok) has each. */
+    private static final String[] KINDS = {"write ok BAD FULL", "wipe ok", "fault ok NONE", "lay ok NO", "person ok BAD", "where ok BAD",
+        "shadow ok BAD NONE", "covers ok BAD", "stands ok BAD", "wear ok BAD", "alter ok BAD", "walk ok BAD FULL", "undo ok NO",
+        "first ok BAD NONE", "broken ok NONE", "taken ok BAD NONE", "seen ok BAD FULL", "forget ok", "whose ok", "look ok BAD NONE",
+        "cut ok BAD NONE", "fittings ok BAD NONE", "watchers ok BAD NONE", "poplar ok BAD", "light ok BAD", "clouds ok BAD",
+        "day ok BAD NONE", "keep ok FULL", "back ok NO", "count ok BAD"};
+
+    private static final Map<String, Integer> ANSWERS = new TreeMap<>();
 
     public static void main(String[] args) {
         int wrong = 0;
         for (int run = 0; run < RUNS && wrong < MOST_SHOWN; run++) {
             wrong += oneRun(run);
         }
+        wrong += wrong == 0 ? rareKinds() : 0;
         System.out.println(wrong == 0 ? RUNS + " runs are as the model's" : "answers are not as the model's");
         if (wrong != 0) {
             System.exit(1);
@@ -29,14 +42,14 @@ public final class ShadowTailorAgainstModel {
     }
 
     private static int oneRun(int run) {
-        Random random = new Random(run);
-        Calls calls = new Calls(random);
         ShadowTailor program = new ShadowTailor();
         Model model = new Model();
+        Calls calls = new Calls(new Random(run), model);
         for (int n = 0; n < CALLS; n++) {
             calls.next();
             long got = calls.askProgram(program);
             long want = calls.askModel(model);
+            ANSWERS.merge(calls.name + " " + kindOf(want), 1, Integer::sum);
             if (got != want) {
                 System.out.println("run " + run + ", call " + n + ": " + calls + " answered " + got + ", due is " + want);
                 return 1;
@@ -45,33 +58,69 @@ public final class ShadowTailorAgainstModel {
         return 0;
     }
 
+    private static String kindOf(long answer) {
+        return answer == BAD ? "BAD" : answer == NO ? "NO" : answer == FULL ? "FULL" : answer == NONE ? "NONE" : "ok";
+    }
+
+    /** How many kinds of answers came too seldom: the runs would look sound without having asked for them. */
+    private static int rareKinds() {
+        int rare = 0;
+        for (String kinds : KINDS) {
+            String[] words = kinds.split(" ");
+            for (int k = 1; k < words.length; k++) {
+                int many = ANSWERS.getOrDefault(words[0] + " " + words[k], 0);
+                if (many < FEWEST) {
+                    rare++;
+                    System.out.println(words[0] + " answered " + words[k] + " " + many + " times alone");
+                }
+            }
+        }
+        return rare;
+    }
+
     /** Draws calls, most of them such as can be answered. */
     private static final class Calls {
         private static final String[] NAMES = {"write", "wipe", "fault", "lay", "person", "where", "shadow", "covers", "stands",
             "wear", "alter", "walk", "undo", "first", "broken", "taken", "seen", "forget", "whose", "look", "cut", "fittings",
             "watchers", "poplar", "light", "clouds", "day", "keep", "back", "count"};
         private final Random random;
+        private final Model model;
+        /** What a run asks for more often than the rest, so that it comes far with it. */
+        private final String[] favourites = new String[4];
         private String toWrite = "";
+        private boolean isWritten;
         private String name;
         private final int[] a = new int[5];
 
-        Calls(Random random) {
+        Calls(Random random, Model model) {
             this.random = random;
+            this.model = model;
+            for (int n = 0; n < favourites.length; n++) {
+                favourites[n] = NAMES[4 + random.nextInt(NAMES.length - 4)];
+            }
+            toWrite = random.nextInt(8) == 0 ? "" : someText();
         }
 
         void next() {
+            set();
             if (!toWrite.isEmpty()) {
                 name = "write";
-                a[0] = toWrite.charAt(0);
-                toWrite = toWrite.substring(1);
+                a[0] = random.nextInt(200) == 0 ? any(127, 300) : toWrite.charAt(0);
+                toWrite = toWrite.substring(a[0] == toWrite.charAt(0) ? 1 : 0);
+                isWritten = toWrite.isEmpty();
                 return;
             }
-            name = NAMES[random.nextInt(NAMES.length)];
-            if (name.equals("write") || name.equals("wipe") && random.nextBoolean()) {
-                toWrite = random.nextInt(3) == 0 ? "" : someText();
-                name = "wipe";
-            } else if (name.equals("lay") && random.nextInt(3) != 0) {
-                name = "fault";
+            if (isWritten) {
+                isWritten = false;
+                name = random.nextInt(8) == 0 ? "fault" : "lay";
+                return;
+            }
+            name = random.nextBoolean() ? favourites[random.nextInt(favourites.length)] : NAMES[random.nextInt(NAMES.length)];
+            if (name.equals("wipe") && random.nextInt(3) != 0) {
+                toWrite = someText();
+            } else if (name.equals("write")) {
+                a[0] = any(32, 126);
+                return;
             }
             draw();
         }
@@ -87,20 +136,24 @@ public final class ShadowTailorAgainstModel {
             return least + random.nextInt(most - least + 1);
         }
 
+        private int person() {
+            return any(0, model.laid.persons.size() - 1);
+        }
+
         private void draw() {
             switch (name) {
-                case "person" -> set(any(0, 4), any(0, 2));
-                case "where", "stands", "wear" -> set(any(0, 4), any(6, 18));
-                case "shadow" -> set(any(0, 4), any(6, 18), any(0, 2));
+                case "person" -> set(person(), any(0, 2));
+                case "where", "stands", "wear" -> set(person(), any(6, 18));
+                case "shadow" -> set(person(), any(6, 18), any(0, 2));
                 case "covers" -> set(any(0, 60), any(6, 18));
-                case "alter" -> set(any(0, 4), any(0, 29));
-                case "walk" -> set(any(0, 4), any(6, 18), any(0, 60));
+                case "alter" -> set(person(), any(0, 29));
+                case "walk" -> set(person(), any(6, 18), any(0, 60));
                 case "first" -> set(any(0, 2));
-                case "taken" -> drawHours(any(0, 0));
-                case "seen" -> set(any(6, 18), any(30, 80));
+                case "taken" -> drawHours(0);
+                case "seen" -> drawSeen();
                 case "look" -> set(any(0, 1));
-                case "cut" -> set(any(-2, 5));
-                case "fittings" -> set(any(-2, 4));
+                case "cut" -> set(any(-2, Math.max(0, model.laid.remnants.size() - 1)));
+                case "fittings" -> set(any(-2, Math.max(0, model.laid.fittings.size() - 1)));
                 case "watchers" -> set(any(6, 18), any(0, 1));
                 case "poplar" -> set(any(1, 99), any(1, 9));
                 case "light" -> set(any(6, 18));
@@ -114,7 +167,18 @@ public final class ShadowTailorAgainstModel {
         private void drawHours(int chance) {
             int one = any(6, 18);
             int other = random.nextInt(10) == 0 ? any(6, 18) : Math.max(one, any(6, 18));
-            set(any(0, 4), one, other, chance, any(0, 1));
+            set(person(), one, other, chance, any(0, 1));
+        }
+
+        /** Mostly where a shadow does end, of one person for a while, so that there are some whose it can be. */
+        private void drawSeen() {
+            int t = any(6, 18);
+            int left = model.whose();
+            if (t < 6 || t > 18 || left == 0 || random.nextInt(6) == 0) {
+                set(t, any(0, 140));
+            } else {
+                set(t, model.laid.end(Integer.numberOfTrailingZeros(left), t) + 40);
+            }
         }
 
         private void set(int... numbers) {
@@ -126,38 +190,62 @@ public final class ShadowTailorAgainstModel {
             return random.nextInt(most + 1);
         }
 
+        /** How many items of a sort: often as many as there may be, seldom one more. */
+        private int many(int least, int most) {
+            int odd = random.nextInt(30);
+            return odd == 0 ? most + 1 : odd < 10 ? most : least + upTo(most - least);
+        }
+
         private String someText() {
             List<String> items = new ArrayList<>();
-            int persons = 1 + upTo(5);
+            int persons = many(1, 6);
             int width = random.nextBoolean() ? 60 : 15;
+            int height = random.nextInt(4) == 0 ? 0 : 8;
             for (int n = 0; n < persons; n++) {
-                items.add("p" + upTo(width) + "," + (1 + upTo(8)) + "," + upTo(3) + "," + (random.nextBoolean() ? 0 : upTo(20)) + ";");
+                items.add("p" + upTo(width) + "," + (1 + upTo(height)) + "," + upTo(3) + "," + (random.nextBoolean() ? 0 : upTo(20)) + ";");
             }
-            for (int n = upTo(4); n > 0; n--) {
-                items.add("w" + upTo(persons - 1) + "," + (6 + upTo(12)) + "," + upTo(width) + ";");
+            List<String> rest = new ArrayList<>();
+            addWalksAndLaws(rest, persons, width);
+            addStock(rest);
+            // Of a text that is too long the items that are left out are of all sorts.
+            Collections.shuffle(rest, random);
+            items.addAll(rest);
+            while (String.join("", items).length() > 200 && random.nextInt(100) != 0) {
+                items.remove(items.size() - 1);
             }
-            for (int n = upTo(4); n > 0; n--) {
-                items.add("l" + upTo(persons - 1) + "," + (6 + upTo(12)) + "," + upTo(25) + ";");
-            }
-            int length = random.nextBoolean() ? 39 : 6;
-            for (int n = upTo(7); n > 0; n--) {
-                items.add("r" + (1 + upTo(length)) + ";");
-            }
-            for (int n = upTo(3); n > 0; n--) {
-                items.add("o" + (1 + upTo(length)) + ";");
-            }
-            for (int n = upTo(6); n > 0; n--) {
-                items.add("f" + (1 + upTo(8)) + "," + (1 + upTo(30)) + ";");
-            }
-            if (random.nextInt(5) == 0) {
+            if (random.nextInt(10) == 0) {
                 Collections.shuffle(items, random);
             }
             StringBuilder text = new StringBuilder(String.join("", items));
-            if (random.nextInt(4) == 0) {
+            if (random.nextInt(8) == 0) {
                 int place = random.nextInt(text.length());
                 text.setCharAt(place, "pwlrof0123456789,; ~".charAt(random.nextInt(20)));
             }
             return text.toString();
+        }
+
+        private void addWalksAndLaws(List<String> items, int persons, int width) {
+            for (int n = many(0, random.nextBoolean() ? 2 : 9); n > 0; n--) {
+                items.add("w" + upTo(persons - 1) + "," + (6 + upTo(12)) + "," + upTo(width) + ";");
+            }
+            for (int n = many(0, random.nextBoolean() ? 2 : 6); n > 0; n--) {
+                items.add("l" + upTo(persons - 1) + "," + (6 + upTo(12)) + "," + upTo(25) + ";");
+            }
+        }
+
+        private void addStock(List<String> items) {
+            int length = random.nextBoolean() ? 39 : 6;
+            for (int n = many(0, 7); n > 0; n--) {
+                items.add("r" + (1 + upTo(length)) + ";");
+            }
+            int ordered = random.nextInt(4) == 0 ? 59 : length;
+            for (int n = many(0, 3); n > 0; n--) {
+                items.add("o" + (1 + upTo(ordered)) + ";");
+            }
+            int due = random.nextBoolean() ? 29 : 11;
+            for (int n = many(0, 6); n > 0; n--) {
+                items.add("f" + (1 + upTo(8)) + "," + (1 + upTo(due)) + ";");
+            }
         }
 
         long askProgram(ShadowTailor x) {
